@@ -693,7 +693,7 @@ public final class NameHall {
         }
 
         boolean isFitting(int person, int name) {
-            return plan.hasName(name) && (fits(person) >> name & 1) == 1;
+            return plan.hasName(name) && !isPersonGone(person) && (plan.fits(person) >> name & 1) == 1;
         }
 
         boolean needsAt(int person, int h) {
@@ -722,25 +722,27 @@ public final class NameHall {
         }
 
         boolean isSomebody(int person) {
-            int name = nameOf(person);
-            return name != NONE && (plan.kind(name) != HALF || isOtherHalfWorn(name));
-        }
-
-        private boolean isOtherHalfWorn(int half) {
-            for (int person = 0; person < PEOPLE; person++) {
-                int name = worn[person];
-                if (name != NONE && name != half && plan.kind(name) == HALF) {
-                    return true;
-                }
-            }
-            return false;
+            return plan.hasPerson(person) && (somebodies() >> person & 1) == 1;
         }
 
         int somebodies() {
+            int halves = halvesWorn();
             int bits = 0;
             for (int person = 0; person < PEOPLE; person++) {
-                if (isSomebody(person)) {
+                int name = worn[person];
+                if (name != NONE && (plan.kind(name) != HALF || (halves & ~(1 << name)) != 0)) {
                     bits |= 1 << person;
+                }
+            }
+            return bits;
+        }
+
+        private int halvesWorn() {
+            int bits = 0;
+            for (int person = 0; person < PEOPLE; person++) {
+                int name = worn[person];
+                if (name != NONE && plan.kind(name) == HALF) {
+                    bits |= 1 << name;
                 }
             }
             return bits;

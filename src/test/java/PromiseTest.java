@@ -329,6 +329,7 @@ public final class PromiseTest {
         due("11 unknown", x.run(4), UNKNOWN);
         due("11 unknown", x.run(-1), UNKNOWN);
         due("11 acts", x.count(7), 7);
+        due("11 the first is gone still", x.name(0, 3), 1);
     }
 
     private static void undo() {
@@ -447,6 +448,9 @@ public final class PromiseTest {
         NameHall w = Check.hallOf("HN01N09N08P09dP99aP09g");
         due("16 one that can save none", w.fire(true), 203);
         due("16 worth", w.fire(false), 17);
+        NameHall v = Check.hallOf("HN01N02N03N04P09iP09p");
+        due("16 the fourth name", v.fire(true), 43);
+        due("16 the fourth name", v.fire(false), 7);
         due("16 nothing", new NameHall().fire(false), 0);
     }
 
@@ -548,6 +552,13 @@ public final class PromiseTest {
         due("21 a gone name is as if it were not", x.who(0), 3);
         due("21 unknown", x.who(2), UNKNOWN);
         due("21 unknown", x.who(-1), UNKNOWN);
+        NameHall w = Check.hallOf("HN05P35bP69bP09b");
+        w.deed(0, 5);
+        due("21 the last hour in which one needs it", w.who(0), 5);
+        w.forget();
+        w.deed(0, 9);
+        w.see(2, 9);
+        due("21 the last hour of all", w.who(0), 2);
         NameHall y = Check.hallOf("HN05N05P09dP09d");
         y.see(1, 3);
         y.deed(1, 3);
@@ -577,6 +588,11 @@ public final class PromiseTest {
         fraction("22 thirds", y, 0, 0, 1, 3);
         fraction("22 sixths", y, 0, 1, 1, 1);
         fraction("22 sixths", y, 1, 1, 1, 2);
+        NameHall w = Check.hallOf("HN05N06N07N08P05pP05d");
+        fraction("22 four names", w, 0, 0, 7, 12);
+        fraction("22 four names", w, 1, 0, 7, 12);
+        fraction("22 four names", w, 2, 0, 5, 12);
+        fraction("22 four names", w, 3, 0, 5, 12);
         NameHall z = Check.hallOf("HN25N01P09dP09dP00a");
         fraction("22 twins", z, 0, 3, 3, 2);
         fraction("22 plain", z, 1, 3, 1, 2);
@@ -686,6 +702,30 @@ public final class PromiseTest {
         due("26 waited more", x.days(30) <= 2 ? 1 : 0, 1);
         x.hour();
         due("26 nobody needs any more", x.days(30), 0);
+        NameHall y = Check.hallOf("HP02aP13a");
+        due("26 from the first hour on", y.days(30), 6);
+        y.hour();
+        y.hour();
+        due("26 from the hour that it is", y.days(30), 3);
+        due("26 some of the days", y.days(1), 2);
+        // a half alone is nobody, two halves meet
+        NameHall z = Check.hallOf("HN15N16P09dP09dP09d");
+        z.take(1, 1);
+        z.seed(-1442695040888963407L * inverse);
+        due("26 halves meet", z.days(1), 1);
+        z.seed(((20L << 33) - 1442695040888963407L) * inverse);
+        due("26 a half alone", z.days(1), 3);
+        // a heavy one is hung after its third hour, the hours it was worn before among them
+        NameHall w = Check.hallOf("HN35P09b");
+        w.take(0, 0);
+        w.hour();
+        w.hour();
+        w.seed(((20L << 33) - 1442695040888963407L) * inverse);
+        due("26 a heavy one in its third hour", w.days(1), 0);
+        w.seed(((20L << 33) - 1442695040888963407L) * inverse);
+        long second = (20L << 33) * 6364136223846793005L + 1442695040888963407L;
+        boolean takes = (second >>> 33) % 30 == 0;
+        due("26 a heavy one after it", w.days(2), takes ? 0 : 1);
     }
 
     private static long inverse(long odd) {
