@@ -13,6 +13,7 @@ public final class ChancesEdgesTest {
         shareOfGoneOnes();
         shareAtItsHours();
         restsOfTwo();
+        restsByBids();
         restsByFit();
         restsOfGoneOnes();
         restsRefusals();
@@ -151,6 +152,25 @@ public final class ChancesEdgesTest {
             due("worth " + worth + ", the other way", x.rests(1, 0, 0, 0), worth == 1 ? 2 : 0);
             due("worth " + worth + ", the other way", x.rests(1, 0, 0, 1), worth == 1 ? 0 : NONE);
         }
+    }
+
+    private static void restsByBids() {
+        Check.sentence("RESTS of two PEOPLE for a NAME: each bids 0 to 4; the greater bid has it (of like ones the first)");
+        // were a bid that is not the greater one for nothing, 4 and 4 would be at rest from worth 4 on;
+        // were there no bid but 0, 0 and 0 would be
+        for (int worth = 2; worth <= 9; worth++) {
+            NameHall x = Check.hallOf("HN0" + worth + "P09bP09b");
+            due("no bid is the last one, worth " + worth, x.rests(0, 1, 0, 0), 0);
+        }
+        Check.sentence("who has it has its WORTH less the bid; who bids 1 or more and has it not has 1 less:");
+        NameHall y = Check.hallOf("HN01N02P09dP09d");
+        due("worth 1 less the bid 1 is no more than nothing", y.rests(0, 1, 0, 0), 2);
+        due("worth 2 less the bid 1 is more than nothing", y.rests(0, 1, 1, 0), 0);
+        Check.sentence("RESTS: how many (what = 0), the first (1); NONE.");
+        due("how many", y.rests(0, 1, 0, 0), 2);
+        due("the first", y.rests(0, 1, 0, 1), 0);
+        due("none of none", y.rests(0, 1, 1, 0), 0);
+        due("the first of none", y.rests(0, 1, 1, 1), NONE);
     }
 
     private static void restsByFit() {
@@ -294,6 +314,7 @@ public final class ChancesEdgesTest {
         for (int m = 1; m <= 30; m++) {
             due("as many hours as days, " + m, x.days(m), Math.min(m, 10));
         }
+        Check.sentence("`int days(int m)`: DAYS. OUTSIDE: m.");
         x.seed(77);
         due("none", x.days(0), OUTSIDE);
         due("too many", x.days(31), OUTSIDE);
@@ -423,6 +444,31 @@ public final class ChancesEdgesTest {
         y.hour();
         y.seed(seedAhead(20L << 33));
         due("behind it", y.days(1), 1);
+        for (int worn = 0; worn <= 2; worn++) {
+            NameHall z = Check.hallOf("HN35P09bP09a");
+            z.take(0, 0);
+            Check.hours(z, worn);
+            for (int m = 1; m <= 4; m++) {
+                z.seed(seedOfNothing(4));
+                // the second one is nobody each day, the first one from the day on that follows the third hour
+                due("a heavy one worn for " + worn + ", " + m + " days", z.days(m), m + Math.max(0, m - (3 - worn)));
+            }
+        }
+    }
+
+    /** A seed by which nothing is done on so many days. */
+    private static long seedOfNothing(int days) {
+        for (long start = 0; ; start++) {
+            long v = start;
+            int nothing = 0;
+            for (int day = 0; day < days; day++) {
+                v = v * FACTOR + STEP;
+                nothing += (v >>> 33) % 30 / 5 == 4 ? 1 : 0;
+            }
+            if (nothing == days) {
+                return start;
+            }
+        }
     }
 
     private static NameHall inTheMiddle(int m) {

@@ -96,6 +96,18 @@ public final class CluesEdgesTest {
         x.forget();
         x.deed(0, 9);
         due("nobody was seen", x.who(0), 2);
+        for (int h = 0; h <= 9; h++) {
+            NameHall y = Check.hallOf("HN05N06P09dP09d");
+            y.see(1, h);
+            y.deed(1, h);
+            due("ahead of it", y.who(1), 1);
+            y.forget();
+            due("no deeds of the one", y.who(1), 3);
+            for (int other = 0; other <= 5; other++) {
+                y.deed(0, (h + other) % 10);
+            }
+            due("nobody was seen at " + h, y.who(0), 3);
+        }
     }
 
     private static void whoWithoutDeeds() {
@@ -138,15 +150,20 @@ public final class CluesEdgesTest {
     }
 
     private static void whoWasSeen() {
+        Check.sentence("SEEN: that a PERSON was seen elsewhere AT an HOUR;");
+        NameHall seen = Check.hallOf("HN05P09bP09b");
+        seen.see(1, 9);
+        seen.deed(0, 9);
+        due("the one, not the other", seen.who(0), 1);
         Check.sentence("were not SEEN AT one of them");
-        for (int seen = 0; seen <= 9; seen++) {
+        for (int h = 0; h <= 9; h++) {
             NameHall x = Check.hallOf("HN05P09bP09b");
             x.deed(0, 0);
             x.deed(0, 5);
             x.deed(0, 9);
-            x.see(0, seen);
-            boolean isOneOfThem = seen == 0 || seen == 5 || seen == 9;
-            due("seen at " + seen, x.who(0), isOneOfThem ? 2 : 3);
+            x.see(0, h);
+            boolean isOneOfThem = h == 0 || h == 5 || h == 9;
+            due("seen at " + h, x.who(0), isOneOfThem ? 2 : 3);
         }
         NameHall y = Check.hallOf("HN05P09bP09b");
         y.see(0, 7);

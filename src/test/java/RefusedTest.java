@@ -18,6 +18,8 @@ public final class RefusedTest {
     }
 
     public static void main(String[] args) {
+        orderOfRefusals();
+        nothingElseIsRefused();
         Check.sentence("What is refused changes nothing.");
         RefusedTest nothing = new RefusedTest(NameHall::new);
         nothing.outsideAlways();
@@ -36,6 +38,52 @@ public final class RefusedTest {
         full.stateOfFull();
         full.holdAll("full of all");
         Check.end("RefusedTest");
+    }
+
+    private static void orderOfRefusals() {
+        Check.sentence("REFUSALS, of several the first that a call names:");
+        NameHall x = fullOfAll();
+        Check.due("write: OUTSIDE, FULL", x.write(256), OUTSIDE);
+        Check.due("name: UNKNOWN, OUTSIDE", x.name(2, 4), UNKNOWN);
+        Check.due("person: UNKNOWN, OUTSIDE", x.person(3, 8), UNKNOWN);
+        Check.due("take: UNKNOWN, STATE, by one that wears one", x.take(1, 2), UNKNOWN);
+        Check.due("take: UNKNOWN, STATE, of what is gone", x.take(3, 0), UNKNOWN);
+        Check.due("see: UNKNOWN, OUTSIDE, FULL", x.see(3, 10), UNKNOWN);
+        Check.due("see: UNKNOWN, FULL", x.see(3, 0), UNKNOWN);
+        Check.due("see: OUTSIDE, FULL", x.see(0, 10), OUTSIDE);
+        Check.due("see: FULL", x.see(0, 0), FULL);
+        Check.due("deed: UNKNOWN, OUTSIDE, FULL", x.deed(2, 10), UNKNOWN);
+        Check.due("deed: UNKNOWN, FULL", x.deed(2, 0), UNKNOWN);
+        Check.due("deed: OUTSIDE, FULL", x.deed(0, 10), OUTSIDE);
+        Check.due("deed: FULL", x.deed(0, 0), FULL);
+        Check.due("share: UNKNOWN, OUTSIDE", x.share(2, 10, true), UNKNOWN);
+        Check.due("rests: UNKNOWN, OUTSIDE", x.rests(3, 3, 0, 2), UNKNOWN);
+        Check.due("rests: UNKNOWN, OUTSIDE", x.rests(0, 0, 2, 2), UNKNOWN);
+        Check.due("letter: UNKNOWN, OUTSIDE", x.letter(3, 10, true), UNKNOWN);
+        Check.sentence("OUTSIDE (another number is not as told), STATE (as told), FULL.");
+        Check.due("OUTSIDE", x.count(9), -2);
+        Check.due("STATE", x.hall(), -3);
+        Check.due("FULL", x.write(0), -4);
+        Check.due("UNKNOWN", x.keep(2), -1);
+        Check.sentence("NONE is -9.");
+        Check.due("NONE", x.person(2, 3), -9);
+        Check.due("NONE", new NameHall().first(), -9);
+    }
+
+    /** What is gone is known on, and can be asked for. */
+    private static void nothingElseIsRefused() {
+        Check.sentence("UNKNOWN (there is no such NAME, PERSON, SLOT)");
+        NameHall x = inTheMiddle();
+        Check.due("a gone name", x.name(3, 3), 1);
+        Check.due("a gone person", x.person(4, 7), 1);
+        Check.due("seen", x.see(4, 0), 3);
+        Check.due("a deed", x.deed(3, 0), 4);
+        Check.due("who", x.who(3), 3);
+        Check.due("share", x.share(3, 0, true), 0);
+        Check.due("share, below", x.share(3, 0, false), 1);
+        Check.due("letter", x.letter(4, 0, true), 0);
+        Check.due("letter, below", x.letter(4, 0, false), 1);
+        Check.due("rests", x.rests(4, 0, 3, 0), 1);
     }
 
     /** Gone ones, a heavy one about to be hung, one slot, acts, clues, a text that is the hall. */

@@ -23,6 +23,7 @@ public final class SomebodyEdgesTest {
         judgeFigures();
         judgeOrder();
         judgeThings();
+        judgeEveryOne();
         judgePlaces();
         judgeSetsAside();
         judgeGone();
@@ -149,6 +150,15 @@ public final class SomebodyEdgesTest {
         due("no names any more", x.most(0, true), 0);
         due("one is left", x.waiting(0, 9), 10);
         due("fire", x.fire(true), 0);
+        for (int n = 0; n < 4; n++) {
+            NameHall y = Check.hallOf("HN01N02N03N04P09pP09a");
+            y.take(0, n);
+            due("one can save", y.fire(false), 4);
+            y.run(0);
+            due("a gone one saves nothing that is left", y.fire(false), 0);
+            due("a gone one saves nothing that is left", y.fire(true), 0);
+            due("a gone one is given nothing that is left", y.most(0, true), 0);
+        }
     }
 
     private static void halvesAsPlain() {
@@ -202,9 +212,12 @@ public final class SomebodyEdgesTest {
         due("none", Check.hallOf("HN25P09bP09b").first(), NONE);
         due("none needs any", new NameHall().first(), NONE);
         due("no people", Check.hallOf("HN05").first(), NONE);
+        Check.sentence("`int first()`: FIRST; NONE.");
         NameHall x = Check.hallOf("HP03a");
         Check.hours(x, 3);
         due("the hour is nothing", x.first(), 0);
+        due("the last hour", Check.hallOf("HN05P09bP99b").first(), 9);
+        due("one hour less, none", Check.hallOf("HN05P08bP99b").first(), NONE);
     }
 
     private static void fireSavesOnce() {
@@ -270,7 +283,7 @@ public final class SomebodyEdgesTest {
     }
 
     private static void judgeFigures() {
-        Check.sentence("OUTSIDE: n, row (0 or more, 2 n figures at most).");
+        Check.sentence("`int judge(int n, int row)`: JUDGED; NONE. OUTSIDE: n, row (0 or more, 2 n figures at most).");
         NameHall x = Check.hallOf("HN05P09b");
         int most = 1;
         for (int n = 1; n <= 4; n++) {
@@ -321,6 +334,22 @@ public final class SomebodyEdgesTest {
         due("a heavy one behind two hours", Check.hallOf("HN35P09b").judge(4, 11000010), NONE);
         due("nothing there", new NameHall().judge(1, 0), NONE);
         due("nothing there", new NameHall().judge(1, 10), 0);
+    }
+
+    private static void judgeEveryOne() {
+        Check.sentence("(a PERSON and 1, a NAME and 1: TAKEN; a PERSON and 1, 0: HUNG; 0 and 0: AN HOUR)");
+        NameHall x = Check.hallOf("HN01N02N03N04P09pP09pP09pP09pP09p");
+        for (int thing = 1; thing <= 99; thing++) {
+            int person = thing / 10;
+            int name = thing % 10;
+            boolean can = person >= 1 && person <= 5 && name >= 1 && name <= 4;
+            due("the first of all, " + thing, x.judge(1, thing), can ? NONE : 0);
+            if (can) {
+                due("hung behind it, " + thing, x.judge(2, 100 * thing + 10 * person), NONE);
+                due("hung by the next one, " + thing, x.judge(2, 100 * thing + 10 * (person % 5 + 1)), 1);
+                due("the same name for the next one, " + thing, x.judge(2, 100 * thing + 10 * (person % 5 + 1) + name), 1);
+            }
+        }
     }
 
     private static void judgePlaces() {

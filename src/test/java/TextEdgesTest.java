@@ -21,6 +21,7 @@ public final class TextEdgesTest {
         whateverCameBehind();
         lengthSetAside();
         notAtItsEnd();
+        faultAnswers();
         hallAnswers();
         hallRefuses();
         madeAnew();
@@ -325,6 +326,18 @@ public final class TextEdgesTest {
                 }
             }
         }
+    }
+
+    private static void faultAnswers() {
+        Check.sentence("`int fault()`: FAULT; NONE.");
+        due("the first place", faultOf("X"), 0);
+        due("the last place there is", faultOf(FULL_HALL + "X"), 33);
+        due("none", faultOf(FULL_HALL), NONE);
+        NameHall x = Check.hallOf("HN05");
+        due("of the text, not of the hall", x.wipe() + x.fault(), 4);
+        due("asked twice", x.fault(), 0);
+        x.write('H');
+        due("mended", x.fault(), NONE);
     }
 
     private static void hallAnswers() {
