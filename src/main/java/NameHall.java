@@ -26,6 +26,7 @@ public final class NameHall {
     private final Clues clues;
     private final Giving giving;
     private final Rescue rescue;
+    private final Bidding bidding;
     private final int[] things;
     private long seed;
 
@@ -39,6 +40,7 @@ public final class NameHall {
         clues = new Clues();
         giving = new Giving(plan);
         rescue = new Rescue(plan);
+        bidding = new Bidding();
         things = new int[THINGS];
         seed = 0;
     }
@@ -255,7 +257,7 @@ public final class NameHall {
         if (one == other || what < 0 || what > 1) {
             return OUTSIDE;
         }
-        Bidding bidding = new Bidding(plan.worth(name), now.isFitting(one, name), now.isFitting(other, name));
+        bidding.prepare(plan.worth(name), now.isFitting(one, name), now.isFitting(other, name));
         return what == 0 ? bidding.countRests() : bidding.firstRest();
     }
 
@@ -1096,14 +1098,14 @@ public final class NameHall {
 
     /** RESTS: two that bid for one NAME. */
     private static final class Bidding {
-        private final int worth;
-        private final boolean fitsOne;
-        private final boolean fitsOther;
+        private int worth;
+        private boolean fitsOne;
+        private boolean fitsOther;
 
-        Bidding(int worth, boolean fitsOne, boolean fitsOther) {
-            this.worth = worth;
-            this.fitsOne = fitsOne;
-            this.fitsOther = fitsOther;
+        void prepare(int worthOfName, boolean isFittingOne, boolean isFittingOther) {
+            worth = worthOfName;
+            fitsOne = isFittingOne;
+            fitsOther = isFittingOther;
         }
 
         int countRests() {
