@@ -15,6 +15,7 @@ public final class ChancesEdgesTest {
         restsOfTwo();
         restsByBids();
         restsByFit();
+        restsOneAfterAnother();
         restsOfGoneOnes();
         restsRefusals();
         letterByNumber();
@@ -183,6 +184,20 @@ public final class ChancesEdgesTest {
             due("fits the other, the first", x.rests(1, 0, 0, 1), 0);
             due("fits neither", x.rests(1, 2, 0, 0), 1);
             due("fits neither, the first", x.rests(1, 2, 0, 1), 0);
+        }
+    }
+
+    /** What one call asked is nothing to the next: worth and fit are looked at anew, more and less. */
+    private static void restsOneAfterAnother() {
+        Check.sentence("if it FITS that one (else the other one has it, if it FITS that)");
+        NameHall x = Check.hallOf("HN01N09P09dP09dP09aP09a");
+        for (int round = 0; round < 2; round++) {
+            due("worth 1", x.rests(0, 1, 0, 0), 2);
+            due("worth 9", x.rests(0, 1, 1, 0), 0);
+            due("fits the one", x.rests(0, 2, 1, 0), 1);
+            due("fits both again", x.rests(0, 1, 1, 1), NONE);
+            due("fits the other", x.rests(2, 0, 1, 0), 1);
+            due("fits neither", x.rests(2, 3, 0, 0), 1);
         }
     }
 
